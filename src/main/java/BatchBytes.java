@@ -10,6 +10,7 @@ public final class BatchBytes {
     private static final int MOST_RECORDS = 1000;
     private static final long MOST_TIME = 1L << 50;
     private static final long MOST_SEAL_TIME = 1L << 49;
+    private static final long MOST_PRODUCER = 1L << 50;
 
     private static final int BASE = 0;
     private static final int LENGTH = 8;
@@ -294,7 +295,7 @@ public final class BatchBytes {
 
     private int wrongFieldFromProducer() {
         long producer = tape.signed(PRODUCER, 8);
-        if (producer < -1 || producer > MOST_TIME) {
+        if (producer < -1 || producer > MOST_PRODUCER) {
             return PRODUCER;
         }
         if (!fitsProducer(tape.signed(EPOCH, 2), producer)) {

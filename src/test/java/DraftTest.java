@@ -17,12 +17,14 @@ public final class DraftTest {
         Dues.end();
     }
 
+    /** Beyond the first 400 bytes by the checksum alone: an object is used for at most 512 calls. */
     private static void same(String name, BatchBytes x, Bytes want) {
         Dues.due(name + ": size()", () -> x.size(), want.size());
-        for (int i = 0; i < want.size(); i++) {
+        for (int i = 0; i < want.size() && i < 400; i++) {
             int place = i;
             Dues.due(name + ": byteAt(" + i + ")", () -> x.byteAt(place), want.get(i));
         }
+        Dues.due(name + ": check()", () -> x.check(), want.checksumFrom(21));
     }
 
     private static void oneBatchByteByByte() {
@@ -62,8 +64,8 @@ public final class DraftTest {
                 // The second record's key and value go round from the highest number to the lowest.
                 x.record(2, Long.MAX_VALUE, keyBytes, Long.MAX_VALUE, valueBytes, 62);
                 model.record(2, Long.MAX_VALUE, keyBytes, Long.MAX_VALUE, valueBytes, 62);
-                x.record(2, 0x0102030405FFFEFFL, keyBytes, 0xF1F2F3F4F5F6F7FFL, valueBytes, 8190);
-                model.record(2, 0x0102030405FFFEFFL, keyBytes, 0xF1F2F3F4F5F6F7FFL, valueBytes, 8190);
+                x.record(3, 0x0102030405FFFEFFL, keyBytes, 0xF1F2F3F4F5F6F7FFL, valueBytes, 8190);
+                model.record(3, 0x0102030405FFFEFFL, keyBytes, 0xF1F2F3F4F5F6F7FFL, valueBytes, 8190);
             }
             x.seal(-1, -1, -1, 1L << 49);
             model.seal(-1, -1, -1, 1L << 49);

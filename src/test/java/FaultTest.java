@@ -235,10 +235,10 @@ public final class FaultTest {
         Bytes beyond = new Bytes().add(parts(3, three, 6, three)).add(Bytes.record(0, 1, null, null));
         due("a value into the next record", Bytes.batch(2, 0, 0, beyond), 4, 61);
         Bytes big = new Bytes();
-        for (int i = 0; i < 8000; i++) {
+        for (int i = 0; i < 4000; i++) {
             big.add(i);
         }
-        one("8000 bytes of each", parts(8000, big, 8000, big), 0, -1);
+        one("4000 bytes of each", parts(4000, big, 4000, big), 0, -1);
     }
 
     private static void varintFaults() {
@@ -251,6 +251,7 @@ public final class FaultTest {
         one("a number in ten pieces, none needed", Bytes.framed(new Bytes().add(ten).add(0).add(1, 1, 0)), 4, 61);
         one("2^64 as a tenth piece of 2", Bytes.framed(new Bytes().add(ten).add(2).add(1, 1, 0)), 4, 61);
         one("a tenth piece of 128", Bytes.framed(new Bytes().add(ten).add(128, 0).add(1, 1, 0)), 4, 61);
+        one("ten pieces with no last one", Bytes.framed(new Bytes().add(ten).add(128).add(1, 1, 0)), 4, 61);
         one("pieces to the record's end", Bytes.framed(new Bytes().add(0, 128, 128, 128)), 4, 61);
         one("pieces to the tape's end", new Bytes().add(128, 128, 128, 128, 128), 4, 61);
         one("a time of 2^64", Bytes.framed(new Bytes().add(0)
@@ -339,6 +340,12 @@ public final class FaultTest {
         Dues.due("after spoil", () -> x.fault(0), 3);
         x.check();
         Dues.due("after check", () -> x.fault(0), 0);
+        x.spoil(62, 1);
+        x.check();
+        Dues.due("with a wrong record", () -> x.fault(0), 4);
+        x.spoil(62, 1);
+        x.check();
+        Dues.due("with the record mended", () -> x.fault(0), 0);
         x.seal(-1, -1, -1, 0);
         Dues.due("after a second seal", () -> x.fault(0), 1);
     }
