@@ -130,6 +130,12 @@ final class Bytes {
         x.trim(padded.used - used);
     }
 
+    /** All bytes as one text, to compare rows by. */
+    @Override
+    public String toString() {
+        return Arrays.toString(Arrays.copyOf(row, used));
+    }
+
     private int word(int i) {
         return numberAt(i, 4).intValue();
     }

@@ -8,10 +8,18 @@ final class Dues {
     static final String ARGUMENT = "throws.IllegalArgumentException";
     static final String STATE = "throws.IllegalStateException";
 
+    private static final int MOST_PRINTED = 50;
+
+    private static String sentence = "";
     private static int wrong = 0;
     private static int asked = 0;
 
     private Dues() {
+    }
+
+    /** The document's sentence that the answers from here on are due by; a wrong answer is printed with it. */
+    static void by(String words) {
+        sentence = words;
     }
 
     static String told(Call call) {
@@ -27,8 +35,8 @@ final class Dues {
         asked++;
         if (!got.equals(want)) {
             wrong++;
-            if (wrong <= 50) {
-                System.out.println(call + " answered " + got + ", due is " + want);
+            if (wrong <= MOST_PRINTED) {
+                System.out.println(call + " answered " + got + ", due is " + want + " by \"" + sentence + "\"");
             }
         }
     }
